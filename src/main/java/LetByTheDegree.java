@@ -1212,7 +1212,6 @@ public final class LetByTheDegree {
         private final House house;
         private final int[] warmth = new int[ROOMS];
         private final int[] heads = new int[ROOMS];
-        private final int[] melts = new int[ROOMS];
         private final int[] given = new int[ROOMS];
         private int feverish = NONE;
         private int leftOff;
@@ -1316,17 +1315,14 @@ public final class LetByTheDegree {
         /** AN HOUR in the rooms of some whole columns: what happens in a column depends on no other one. */
         private void pass(State s, int rooms) {
             gather(s);
-            for (int r = 0; r < ROOMS; r++) {
-                if ((rooms >> r & 1) != 0) {
-                    int ice = s.ice[r];
-                    melts[r] = ice == 0 ? 0
-                        : house.rule.melts(warmth[r], ice, s.water[r], s.frost, r / WIDTH, heads[r], s.now);
-                }
-            }
-            // Falling numbers go from the lowest storey up; the order in a storey makes no odds.
+            // Falling numbers go from the lowest storey up: a room is still as it was ahead of the HOUR when
+            // its turn comes, as only the room above, later, drips on it.
             for (int r = ROOMS - 1; r >= 0; r--) {
                 if ((rooms >> r & 1) != 0) {
-                    drip(s, r);
+                    int ice = s.ice[r];
+                    int melts = ice == 0 ? 0
+                        : house.rule.melts(warmth[r], ice, s.water[r], s.frost, r / WIDTH, heads[r], s.now);
+                    drip(s, r, melts);
                 }
             }
             gaveLast = 0;
@@ -1364,16 +1360,16 @@ public final class LetByTheDegree {
             }
         }
 
-        private void drip(State s, int r) {
+        private void drip(State s, int r, int melts) {
             int below = r + WIDTH;
             if (house.has(below)) {
                 s.water[below] += s.water[r];
             } else {
                 s.pond += s.water[r];
             }
-            s.water[r] = melts[r];
-            s.ice[r] -= melts[r];
-            melted += melts[r];
+            s.water[r] = melts;
+            s.ice[r] -= melts;
+            melted += melts;
         }
 
         private void freeze(State s, int r) {
@@ -1783,14 +1779,14 @@ public final class LetByTheDegree {
 
         void search(State now, int n) {
             size = Math.min(n, MOST);
-            least = Integer.MAX_VALUE;
+            least = NONE;
             states[0].become(now);
             goFrom(0, 0);
         }
 
         private void goFrom(int k, int melted) {
             // Ways come by rising rows: one that melts as much as an earlier one is no better.
-            if (melted >= least) {
+            if (least != NONE && melted >= least) {
                 return;
             }
             if (k >= size || k >= MOST) {
