@@ -307,13 +307,11 @@ public final class LetByTheDegree {
     /** Makes the scratch state what it would be in n HOURS. */
     private void lookAhead(int n) {
         scratch.become(state);
-        course.begin();
         course.goOn(scratch, n);
     }
 
     public int gives() {
         scratch.become(state);
-        course.begin();
         int floors = house.floors(scratch);
         for (int k = 1; k <= HOURS_TO_COME; k++) {
             course.goOn(scratch, 1);
@@ -1711,20 +1709,14 @@ public final class LetByTheDegree {
             leftOff = 0;
             boolean found = true;
             for (int c = 0; c < house.columns && found; c++) {
-                found = searchColumn(c);
+                found = false;
+                int left = MOST - Integer.bitCount(leftOff);
+                for (int few = 0; few <= left && !found; few++) {
+                    found = choose(c, 0, few);
+                }
             }
             course.leftOff = 0;
             return found;
-        }
-
-        private boolean searchColumn(int c) {
-            int left = MOST - Integer.bitCount(leftOff);
-            for (int size = 0; size <= left; size++) {
-                if (choose(c, 0, size)) {
-                    return true;
-                }
-            }
-            return false;
         }
 
         private boolean choose(int c, int from, int size) {

@@ -7,6 +7,7 @@ public final class HoursTests {
         hourFalls();
         hourRents();
         hour();
+        hourRule();
         hours();
         pay();
         winter();
@@ -186,6 +187,22 @@ public final class HoursTests {
         Due.row(y, 3, 2, 7);
         Due.is("hour()", y.hour(), 0);
         Due.row(y, 3, 0, 10);
+    }
+
+    private static void hourRule() {
+        Due.promise("14: an hour's rule");
+        LetByTheDegree x = Due.thin("50,50/50,50", "a1:100000;a1:200000;b2:300000");
+        Due.rule(x, "n*9+y*4+h");
+        Due.is("hour()", x.hour(), 18 + 0 + 4 + 13);
+        Due.is("room(0, 0)", x.room(0, 0), 32);
+        Due.is("room(1, 0)", x.room(1, 0), 50);
+        Due.is("room(3, 0)", x.room(3, 0), 46);
+        Due.is("room(4, 0)", x.room(4, 0), 37);
+        Due.is("hour()", x.hour(), 19 + 1 + 5 + 14);
+        Due.rule(x, "a+f");
+        x.set(1, 1);
+        // Of room 0 the 13 that are left; in room 3 18 have come from above to its own 5.
+        Due.is("hour()", x.hour(), 13 + 2 + 24 + 15);
     }
 
     private static void hours() {

@@ -132,6 +132,19 @@ public final class HouseTests {
         Due.is("person(0, 1)", x.person(0, 1), 0);
         Due.is("person(0, 2)", x.person(0, 2), 0);
         Due.is("room(1, 3), by the rule as it was", x.room(1, 3), 4);
+        LetByTheDegree y = Due.thin("9,9/9,9", "");
+        y.stove(1);
+        y.keep(0);
+        y.keep(1);
+        y.hours(2);
+        Due.is("room(1, 1)", y.room(1, 1), 2);
+        Due.is("house()", Due.house(y, "4,5/6,7"), 4);
+        Due.is("count(4)", y.count(4), -1);
+        Due.is("room(1, 1)", y.room(1, 1), 0);
+        Due.is("room(4, 1)", y.room(4, 1), 0);
+        Due.asks(y, "water()", 22, () -> y.water(), 22, 0, 0);
+        Due.is("again(0), with nobody then and now", y.again(0), false);
+        Due.is("again(1), with nobody then and now", y.again(1), false);
     }
 
     private static void people() {
@@ -241,6 +254,9 @@ public final class HouseTests {
         melts(x, "1+3<2", 0);
         melts(x, "2+(1<3)*9", 11);
         melts(x, "(1<2)<2", 1);
+        melts(x, "5+(4<4)", 5);
+        melts(x, "5+(4>4)", 5);
+        melts(x, "5+(4=5)", 5);
         melts(x, "1<(2<1)", 0);
         melts(x, "((((7))))", 7);
         melts(x, "(1)+((((2))))", 3);

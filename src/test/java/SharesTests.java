@@ -126,6 +126,9 @@ public final class SharesTests {
         Due.leaves(n, "look()", -2, () -> n.look());
         LetByTheDegree y = Due.of("0,9", "");
         Due.asks(y, "look() of nobody", 0, () -> y.look(), 1, 0);
+        Due.rule(y, "n");
+        Due.asks(y, "look() of nobody", 0, () -> y.look(), 1, 0);
+        Due.rule(y, "");
         y.stove(1);
         Due.asks(y, "look() of nobody", 0, () -> y.look(), 1, 0);
         LetByTheDegree z = Due.of("99", "a1:111111;a1:222222;a1:444444;a1:888888;a1:999999");
@@ -172,6 +175,11 @@ public final class SharesTests {
         LetByTheDegree w = Due.of("9,9,9/0,9,9", "");
         w.stove(2);
         Due.asks(w, "carry(1)", 2, () -> w.carry(1), 1);
+        LetByTheDegree u = Due.of("9,9,1", "");
+        u.stove(0);
+        Due.asks(u, "carry(2), to the right", 3, () -> u.carry(2), 1, 2);
+        u.stove(1);
+        Due.asks(u, "carry(1), to the right", 1, () -> u.carry(1), 2);
         LetByTheDegree z = Due.of("9,9/9,9", "");
         z.stove(1);
         Due.rule(z, "w*(y=0)");

@@ -107,6 +107,18 @@ public final class WaterTests {
         // Both fall twice, and then are OUT; of rooms that give in as many HOURS the first.
         Due.asks(y, "season(7, 5)", 4, () -> y.season(7, 5), 0, 1, 5);
         Due.asks(y, "season(-7, 60)", 4, () -> y.season(-7, 60), 0, 1, 60);
+        // By a DRAW of FROST 0 the floor of room 0 gives, once.
+        LetByTheDegree z = Due.thin("9,9", "a1:000000");
+        Due.rule(z, "9*(f=0)*(y+n>0)");
+        int found = 0;
+        for (int seed = 0; seed < 100; seed++) {
+            int r = seed * 1103515245 + 12345;
+            int gave = (r >>> 16) % 10 == 0 ? 1 : 0;
+            int s = seed;
+            Due.asks(z, "season(" + seed + ", 1)", gave, () -> z.season(s, 1), 9 * gave, gave - 1, gave);
+            found += gave;
+        }
+        Due.is("some give", found > 0, true);
     }
 
     private static void seasonPeople() {
