@@ -1103,13 +1103,13 @@ public final class LetByTheDegree {
         }
 
         private boolean expression(int depth) {
-            if (!sum(depth)) {
+            if (!chain(depth, false)) {
                 return false;
             }
             int sign = next();
             if (sign == '<' || sign == '>' || sign == '=') {
                 at++;
-                if (!sum(depth)) {
+                if (!chain(depth, false)) {
                     return false;
                 }
                 emit(Rule.OPERATOR + sign);
@@ -1117,40 +1117,24 @@ public final class LetByTheDegree {
             return true;
         }
 
-        private boolean sum(int depth) {
-            if (!product(depth)) {
-                return false;
-            }
-            for (int k = 0; k < Rule.MOST; k++) {
+        /** Parts that are joined from the left: things by * and / (tight), or such chains by + and -. */
+        private boolean chain(int depth, boolean tight) {
+            boolean right = part(depth, tight);
+            for (int k = 0; k < Rule.MOST && right && joins(next(), tight); k++) {
                 int sign = next();
-                if (sign != '+' && sign != '-') {
-                    return true;
-                }
                 at++;
-                if (!product(depth)) {
-                    return false;
-                }
+                right = part(depth, tight);
                 emit(Rule.OPERATOR + sign);
             }
-            return true;
+            return right;
         }
 
-        private boolean product(int depth) {
-            if (!signed(depth)) {
-                return false;
-            }
-            for (int k = 0; k < Rule.MOST; k++) {
-                int sign = next();
-                if (sign != '*' && sign != '/') {
-                    return true;
-                }
-                at++;
-                if (!signed(depth)) {
-                    return false;
-                }
-                emit(Rule.OPERATOR + sign);
-            }
-            return true;
+        private boolean part(int depth, boolean tight) {
+            return tight ? signed(depth) : chain(depth, true);
+        }
+
+        private static boolean joins(int sign, boolean tight) {
+            return tight ? sign == '*' || sign == '/' : sign == '+' || sign == '-';
         }
 
         private boolean signed(int depth) {
