@@ -784,7 +784,8 @@ public final class LetByTheDegree {
     private static final class House {
         private static final int LINE = 9;
         private static final int PEOPLE_SIGNS = 76;
-        private static final int FIRST_COLUMN = 73;
+        /** The bits of rooms 0, 3 and 6. */
+        private static final int FIRST_COLUMN = 1 | 1 << WIDTH | 1 << 2 * WIDTH;
         private final Rule rule = new Rule();
         private final int[] doings = new int[DOINGS];
         private final int[] toldIce = new int[ROOMS];
