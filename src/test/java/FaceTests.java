@@ -28,6 +28,7 @@ public final class FaceTests {
         source();
         anyArguments();
         room();
+        edges();
         Due.end();
     }
 
@@ -156,6 +157,22 @@ public final class FaceTests {
                 Due.is("lines of " + lines[begin].trim(), k - begin <= 60, true);
                 begin = -1;
             }
+        }
+    }
+
+    /** Whether each promise, and what stands ahead of them, has an edge's test. */
+    private static void edges() throws IOException {
+        Due.promise("each promise has tests of its edges");
+        Set<Integer> found = new HashSet<>();
+        for (String part : new String[] {"Terms", "House", "Hours", "ToCome", "Shares", "Water"}) {
+            String tests = Files.readString(Path.of("src/test/java/Edge" + part + "Tests.java"), StandardCharsets.UTF_8);
+            Matcher m = Pattern.compile("Edge\\.of\\((\\d+), ").matcher(tests);
+            while (m.find()) {
+                found.add(Integer.parseInt(m.group(1)));
+            }
+        }
+        for (int promise = 0; promise <= 41; promise++) {
+            Due.is("promise " + promise + " has one", found.contains(promise), true);
         }
     }
 
