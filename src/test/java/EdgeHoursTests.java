@@ -49,7 +49,8 @@ public final class EdgeHoursTests {
     }
 
     private static void stove() {
-        Edge.of(13, "THE STOVE is brought to a room (NONE: nowhere): where it was (9: nowhere).", "the first room, the last, nowhere, behind a fall");
+        Edge.of(13, "THE STOVE is brought to a room (NONE: nowhere): where it was (9: nowhere).",
+            "the first room, the last, nowhere, behind a fall");
         LetByTheDegree x = Due.thin("9,9,9/9,9,9/9,9,0", "");
         Due.is("stove(0) from nowhere", x.stove(0), 9);
         Due.is("stove(8)", x.stove(8), 0);
@@ -70,7 +71,8 @@ public final class EdgeHoursTests {
     }
 
     private static void hour() {
-        Edge.of(14, "AN HOUR goes by: what melted in all; the ROW: ROOMS that GAVE (bits), PEOPLE that FELL in it (bits), THE POND.", "nothing of it; all of it");
+        Edge.of(14, "AN HOUR goes by: what melted in all; the ROW: ROOMS that GAVE (bits), PEOPLE that FELL in it (bits), THE POND.",
+            "nothing of it; all of it");
         LetByTheDegree x = Due.of("9", "");
         Due.is("hour() of nothing", x.hour(), 0);
         Due.row(x, 0, 0, 0);
@@ -97,7 +99,8 @@ public final class EdgeHoursTests {
         Edge.asks(Edge::busy, "hours(0)", 0, o -> o.hours(0), 0, 0, 0);
         Edge.asks(LetByTheDegree::new, "hours(0)", 0, o -> o.hours(0), 0, 0, 0);
 
-        Edge.of(15, "the ROW: ROOMS that GAVE in some (bits), PEOPLE that FELL (bits), THE POND", "unlike ones in unlike HOURS; of the last HOURS alone");
+        Edge.of(15, "the ROW: ROOMS that GAVE in some (bits), PEOPLE that FELL (bits), THE POND",
+            "unlike ones in unlike HOURS; of the last HOURS alone");
         LetByTheDegree y = Due.thin("1,2,9", "a1:222222;b1:222222");
         Due.is("hours(3)", y.hours(3), 3);
         Due.row(y, 3, 3, 3);
@@ -218,7 +221,8 @@ public final class EdgeHoursTests {
 
     private static void winterStops() {
         // One is in room 3, the other in room 4, THE STOVE in room 1; ROOMS are 0, 1, 3, 4.
-        Edge.of(17, "till one can't be (it answers below 0, ROOMS that are not there): how many were done", "the first, the last, one between; each reason");
+        Edge.of(17, "till one can't be (it answers below 0, ROOMS that are not there): how many were done",
+            "the first, the last, one between; each reason");
         for (String s : new String[] {"m0a2", "m2a1", "m5a1", "m9a1", "m0c1", "m0a3", "m0c3", "sb1", "sc1", "sa3", "sc3"}) {
             stops(s, 0);
             stops("h;" + s, 1);
@@ -245,7 +249,8 @@ public final class EdgeHoursTests {
     }
 
     private static void winterEnds() {
-        Edge.of(17, "-1 - p: the sign at p can't stand there (as people()", "its end, if it ends too early, behind each sign of an ACT");
+        Edge.of(17, "-1 - p: the sign at p can't stand there (as people()",
+            "its end, if it ends too early, behind each sign of an ACT");
         winterWrong("h;", 2);
         winterWrong("m", 1);
         winterWrong("m0", 2);
@@ -314,7 +319,8 @@ public final class EdgeHoursTests {
     // ---- undone
 
     private static void undoWhat() {
-        Edge.of(18, "(ICE, WATER, THE POND, where PEOPLE and THE STOVE are, OWES, FELL, NOW, FROST are as ahead of it)", "each of them, by each of the six calls");
+        Edge.of(18, "(ICE, WATER, THE POND, where PEOPLE and THE STOVE are, OWES, FELL, NOW, FROST are as ahead of it)",
+            "each of them, by each of the six calls");
         Edge.Call[] calls = {o -> o.move(0, 4), o -> o.stove(3), o -> o.hour(), o -> o.hours(60), o -> o.pay(0, 2),
             o -> Due.winter(o, "f5;h9;m0b2;sb2;h9;m1a1")};
         for (int k = 0; k < calls.length; k++) {
@@ -362,7 +368,8 @@ public final class EdgeHoursTests {
             Edge.counts(x, 10, 2);
         }
 
-        Edge.of(18, "hours() of 1 and more, winter() of which one ACT was done, as one", "hours(0), hours(1), hours(60); no ACT, one, two");
+        Edge.of(18, "hours() of 1 and more, winter() of which one ACT was done, as one",
+            "hours(0), hours(1), hours(60); no ACT, one, two");
         Edge.Call[] more = {o -> o.hours(0), o -> o.hours(1), o -> o.hours(60), o -> Due.winter(o, ""), o -> Due.winter(o, "sa1;h"),
             o -> Due.winter(o, "h;sa1"), o -> Due.winter(o, "f1"), o -> Due.winter(o, "h;f5;h9;s-")};
         int[] kept = {2, 3, 3, 2, 2, 3, 3, 3};
@@ -423,7 +430,8 @@ public final class EdgeHoursTests {
     }
 
     private static void undoForgotten() {
-        Edge.of(18, "(house(), people() and again() forget them, if they are not refused; an empty people() does not.)", "each, refused and not");
+        Edge.of(18, "(house(), people() and again() forget them, if they are not refused; an empty people() does not.)",
+            "each, refused and not");
         LetByTheDegree x = melting();
         x.keep(0);
         Due.house(x, "1,");

@@ -41,7 +41,8 @@ public final class EdgeHouseTests {
     // ---- THE TEXT
 
     private static void sign() {
-        Edge.of(2, "Four signs come behind THE TEXT, of v the highest byte first: how many it has.", "signs 0 and 255, v below 0");
+        Edge.of(2, "Four signs come behind THE TEXT, of v the highest byte first: how many it has.",
+            "signs 0 and 255, v below 0");
         LetByTheDegree x = new LetByTheDegree();
         Due.is("sign(0)", x.sign(0), 4);
         Due.is("sign(-1)", x.sign(-1), 8);
@@ -144,7 +145,8 @@ public final class EdgeHouseTests {
             Edge.person(y, p, 0, 0, 0, 1, 21);
         }
 
-        Edge.of(4, "THE STOVE is nowhere, THE POND 0, NOW 0, nothing can be undone, nothing is kept", "each of them, by a house that is like the one ahead");
+        Edge.of(4, "THE STOVE is nowhere, THE POND 0, NOW 0, nothing can be undone, nothing is kept",
+            "each of them, by a house that is like the one ahead");
         LetByTheDegree z = Due.thin("9/9", "a2:999999");
         z.keep(0);
         z.keep(1);
@@ -189,7 +191,8 @@ public final class EdgeHouseTests {
     }
 
     private static void houseEnds() {
-        Edge.of(4, "-1 - p: the sign at p can't stand there", "the first sign, one behind a digit, behind two, behind a comma, behind a /");
+        Edge.of(4, "-1 - p: the sign at p can't stand there",
+            "the first sign, one behind a digit, behind two, behind a comma, behind a /");
         houseWrong("x", 0);
         houseWrong(",1", 0);
         houseWrong("/1", 0);
@@ -252,7 +255,8 @@ public final class EdgeHouseTests {
     // ---- PEOPLE
 
     private static void people() {
-        Edge.of(5, "THE TEXT tells of PEOPLE (an empty one: nothing): how many LINES", "no LINE, one, five; more in a second text");
+        Edge.of(5, "THE TEXT tells of PEOPLE (an empty one: nothing): how many LINES",
+            "no LINE, one, five; more in a second text");
         Edge.reads(Edge::busy, "people()", "", 0, LetByTheDegree::people);
         Edge.reads(LetByTheDegree::new, "people()", "", 0, LetByTheDegree::people);
         LetByTheDegree x = Due.of("9,9/9,9", "");
@@ -438,14 +442,16 @@ public final class EdgeHouseTests {
     // ---- what is told
 
     private static void room() {
-        Edge.of(7, "what 0: ICE, 1: WATER, 2: WARMTH in HOUR NOW, 3: what would MELT now, 4: PEOPLE in it (bits), 5: 1 if THE STOVE is", "none of all that; all of it");
+        Edge.of(7, "what 0: ICE, 1: WATER, 2: WARMTH in HOUR NOW, 3: what would MELT now, 4: PEOPLE in it (bits), 5: 1 if THE STOVE is",
+            "none of all that; all of it");
         LetByTheDegree x = Due.of("0,99", "b1:999999;b1:999999;b1:999999;b1:999999;b1:999999");
         x.set(0, 9);
         x.stove(1);
         Edge.room(x, 0, 0, 0, 0, 0, 0, 0);
         Edge.room(x, 1, 99, 0, 54, 27, 31, 1);
 
-        Edge.of(7, "NoSuchElementException: none such, another what.", "one less than the first, one more than the last; beside the columns, below the storeys");
+        Edge.of(7, "NoSuchElementException: none such, another what.",
+            "one less than the first, one more than the last; beside the columns, below the storeys");
         LetByTheDegree y = Edge.busy();
         for (int r : new int[] {-1, 2, 5, 6, 9, Integer.MAX_VALUE, Integer.MIN_VALUE}) {
             Due.throwsNone("room(" + r + ", 0)", () -> y.room(r, 0));
@@ -461,7 +467,8 @@ public final class EdgeHouseTests {
     }
 
     private static void person() {
-        Edge.of(8, "what 0: the room (NONE: OUT), 1: OWES, 2: FELL, 3: WARM in HOUR NOW, 4: WARM of the whole cycle", "nothing of it; OUT; WARM 9 in all HOURS");
+        Edge.of(8, "what 0: the room (NONE: OUT), 1: OWES, 2: FELL, 3: WARM in HOUR NOW, 4: WARM of the whole cycle",
+            "nothing of it; OUT; WARM 9 in all HOURS");
         LetByTheDegree x = Due.thin("0,9", "b1:000000;a1:999999");
         Edge.person(x, 0, 1, 0, 0, 0, 0);
         Edge.person(x, 1, 0, 0, 0, 9, 54);
@@ -485,7 +492,8 @@ public final class EdgeHouseTests {
     // ---- what is set
 
     private static void set() {
-        Edge.of(9, "HEAT (what 0), FROST (1), PRICE (2) becomes v (0 .. 9): what it was.", "the least and the most of each, and the same again");
+        Edge.of(9, "HEAT (what 0), FROST (1), PRICE (2) becomes v (0 .. 9): what it was.",
+            "the least and the most of each, and the same again");
         LetByTheDegree x = new LetByTheDegree();
         int[] atFirst = {5, 2, 1};
         for (int what = 0; what < 3; what++) {
@@ -506,7 +514,8 @@ public final class EdgeHouseTests {
     }
 
     private static void doing() {
-        Edge.of(10, "WARM of one in HOUR k of the cycle (0 .. 5) becomes v (0 .. 9): what it was.", "the first and the last of PEOPLE and HOURS, the least and the most");
+        Edge.of(10, "WARM of one in HOUR k of the cycle (0 .. 5) becomes v (0 .. 9): what it was.",
+            "the first and the last of PEOPLE and HOURS, the least and the most");
         LetByTheDegree x = Due.of("9", Edge.lines(5, "123456"));
         for (int p = 0; p < 5; p += 4) {
             Due.is("doing(" + p + ", 0, 9)", x.doing(p, 0, 9), 1);
@@ -580,7 +589,8 @@ public final class EdgeHouseTests {
         ice(x, 1, 0, 0, 0);
         Due.is("sheet(2, 4, 5, 0)", x.sheet(2, 4, 5, 0), 20);
 
-        Edge.of(11, "of bytes, shorts the lowest bits, with their sign", "the greatest byte and short, the next, all bits, 0 again");
+        Edge.of(11, "of bytes, shorts the lowest bits, with their sign",
+            "the greatest byte and short, the next, all bits, 0 again");
         Due.is("sheet(0, 2, 127, 1)", x.sheet(0, 2, 127, 1), 99);
         ice(x, 99, 0, 0, 0);
         Due.is("sheet(0, 4, 254, 1)", x.sheet(0, 4, 254, 1), 1);

@@ -26,7 +26,8 @@ public final class EdgeSharesTests {
     // ---- shares
 
     private static void share() {
-        Edge.of(27, "what MELTS times its WARM by WARMTH: 0; the ROW: the fraction", "WARM 0, WARMTH 0, ICE 0; all of it, more than WARM; HEAT has a part");
+        Edge.of(27, "what MELTS times its WARM by WARMTH: 0; the ROW: the fraction",
+            "WARM 0, WARMTH 0, ICE 0; all of it, more than WARM; HEAT has a part");
         Edge.asks(() -> house("99", "a1:000000;a1:300000", "w"), "share(0), WARM 0", 0, o -> o.share(0), 0, 1);
         Edge.asks(() -> house("99", "a1:000000;a1:300000", "w"), "share(1)", 0, o -> o.share(1), 3, 1);
         Edge.asks(() -> house("99", "a1:000000", "7"), "share(0), WARMTH 0", 0, o -> o.share(0), 0, 1);
@@ -82,7 +83,8 @@ public final class EdgeSharesTests {
     // ---- who was warm
 
     private static void warmHow() {
-        Edge.of(29, "would MELT v (0 .. 99) there (THE STOVE where it is): how many", "none, one, all 32 sets; v 0, 99; nobody at all");
+        Edge.of(29, "would MELT v (0 .. 99) there (THE STOVE where it is): how many",
+            "none, one, all 32 sets; v 0, 99; nobody at all");
         Edge.asks(() -> house("99", Edge.lines(5, "000000"), "99"), "warm(0, 99)", 32, o -> o.warm(0, 99), 0, 0);
         Edge.asks(() -> house("99", Edge.lines(5, "000000"), "99"), "warm(0, 98)", 0, o -> o.warm(0, 98), -1, 0);
         Edge.asks(() -> house("99", Edge.lines(5, "000000"), "0"), "warm(0, 0)", 32, o -> o.warm(0, 0), 0, 0);
@@ -104,7 +106,8 @@ public final class EdgeSharesTests {
     }
 
     private static void warmWhich() {
-        Edge.of(29, "the ROW: the least (bits; NONE), PEOPLE that are in all of them (bits; 0 without)", "the last of PEOPLE alone, two in all of them, one who is OUT");
+        Edge.of(29, "the ROW: the least (bits; NONE), PEOPLE that are in all of them (bits; 0 without)",
+            "the last of PEOPLE alone, two in all of them, one who is OUT");
         Edge.asks(() -> house("99", "a1:000000;a1:000000;a1:000000;a1:000000;a1:700000", "w"), "warm(0, 7)", 16, o -> o.warm(0, 7), 16, 16);
         Edge.asks(() -> house("99", "a1:300000;a1:000000;a1:400000", "w"), "warm(0, 7)", 2, o -> o.warm(0, 7), 5, 5);
         Edge.asks(() -> house("99", "a1:300000;a1:300000", "w"), "warm(0, 3)", 2, o -> o.warm(0, 3), 1, 0);
@@ -151,7 +154,8 @@ public final class EdgeSharesTests {
 
     /** From each room to each other one, of which one alone costs no ICE. */
     private static void carryBeside() {
-        Edge.of(31, "to a room beside it (left, right, above, below) or not", "from each room of each house; not round its sides");
+        Edge.of(31, "to a room beside it (left, right, above, below) or not",
+            "from each room of each house; not round its sides");
         for (int size = 0; size < 9; size++) {
             int columns = size % 3 + 1;
             int storeys = size / 3 + 1;
@@ -203,7 +207,8 @@ public final class EdgeSharesTests {
     }
 
     private static void carryFalls() {
-        Edge.of(31, "(If it falls, it goes on from there; in HOURS behind its being nowhere: 9.)", "in the first HOUR, in the last; one storey, three");
+        Edge.of(31, "(If it falls, it goes on from there; in HOURS behind its being nowhere: 9.)",
+            "in the first HOUR, in the last; one storey, three");
         Edge.asks(() -> stoved("1", 0), "carry(1)", 1, o -> o.carry(1), 0);
         Edge.asks(() -> stoved("1", 0), "carry(5)", 1, o -> o.carry(5), 0, 9, 9, 9, 9);
         Edge.asks(() -> stoved("9", 0), "carry(5), out in the last HOUR", 9, o -> o.carry(5), 0, 0, 0, 0, 0);
@@ -245,7 +250,8 @@ public final class EdgeSharesTests {
     // ---- each as he likes
 
     private static void restsValues() {
-        Edge.of(33, "each gets v (0 .. 99) if it is as WARM as that, not 0 by choice, less what MELTS in all there", "0, 99; as much as melts by one; one who is not WARM in HOUR NOW");
+        Edge.of(33, "each gets v (0 .. 99) if it is as WARM as that, not 0 by choice, less what MELTS in all there",
+            "0, 99; as much as melts by one; one who is not WARM in HOUR NOW");
         String two = "a1:200000;a1:200000";
         // By w/2 0, 1, 1, 2 melt by neither, the first, the second, both.
         Edge.asks(() -> house("99", two, "w/2"), "rests(0, 1, 0)", 1, o -> o.rests(0, 1, 0), 0, 0);

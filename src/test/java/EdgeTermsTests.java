@@ -151,7 +151,8 @@ public final class EdgeTermsTests {
     }
 
     private static void cycle() {
-        Edge.of(0, "WARM 0 .. 9 in HOUR NOW % 6 of a cycle (6 digits)", "the first, the last HOUR of a cycle, the first of the next");
+        Edge.of(0, "WARM 0 .. 9 in HOUR NOW % 6 of a cycle (6 digits)",
+            "the first, the last HOUR of a cycle, the first of the next");
         LetByTheDegree x = Due.of("99", "a1:900007");
         int[] warm = {9, 0, 0, 0, 0, 7, 9, 0};
         for (int k = 0; k < warm.length; k++) {
@@ -282,7 +283,8 @@ public final class EdgeTermsTests {
     }
 
     private static void facts() {
-        Edge.of(0, "w WARMTH (that of all who are in it in this HOUR, and HEAT, if THE STOVE is)", "nobody and no stove, all five and the stove");
+        Edge.of(0, "w WARMTH (that of all who are in it in this HOUR, and HEAT, if THE STOVE is)",
+            "nobody and no stove, all five and the stove");
         LetByTheDegree x = Due.of("99/99", Edge.lines(5, "900000"));
         Due.rule(x, "w");
         x.set(0, 9);
@@ -371,7 +373,8 @@ public final class EdgeTermsTests {
     // ---- AN HOUR
 
     private static void meltsAndRents() {
-        Edge.of(0, "(1) of each room, by ICE and all as they are ahead: what MELTS", "what drips onto a room in that HOUR doesn't count");
+        Edge.of(0, "(1) of each room, by ICE and all as they are ahead: what MELTS",
+            "what drips onto a room in that HOUR doesn't count");
         LetByTheDegree x = Due.thin("9/9", "");
         Due.rule(x, "a+3*(y=0)*(h=0)");
         Due.is("hour()", x.hour(), 3);
@@ -382,7 +385,8 @@ public final class EdgeTermsTests {
         Edge.room(x, 0, 0, 3);
         Edge.room(x, 3, 6, 6);
 
-        Edge.of(0, "each in a room OWES PRICE times its WARM more", "one in a room without ICE, one who falls in that HOUR, one who is OUT");
+        Edge.of(0, "each in a room OWES PRICE times its WARM more",
+            "one in a room without ICE, one who falls in that HOUR, one who is OUT");
         LetByTheDegree y = Due.thin("0/0", "a1:420000;a2:310000");
         y.set(2, 2);
         y.hour();
@@ -444,7 +448,8 @@ public final class EdgeTermsTests {
     }
 
     private static void gives() {
-        Edge.of(0, "(4) By rooms in their numbers: one whose ICE is 0 GIVES", "ICE 1, ICE 0, ICE that FROST mends; with nobody in it, too");
+        Edge.of(0, "(4) By rooms in their numbers: one whose ICE is 0 GIVES",
+            "ICE 1, ICE 0, ICE that FROST mends; with nobody in it, too");
         LetByTheDegree x = Due.thin("1,0,4", "");
         Due.rule(x, "w");
         x.set(0, 4);
@@ -459,7 +464,8 @@ public final class EdgeTermsTests {
     }
 
     private static void falls() {
-        Edge.of(0, "(in one of the lowest storey: PEOPLE are OUT, THE STOVE nowhere)", "from the storey above it, from it, from the only one");
+        Edge.of(0, "(in one of the lowest storey: PEOPLE are OUT, THE STOVE nowhere)",
+            "from the storey above it, from it, from the only one");
         LetByTheDegree x = Due.thin("0,0/9,0", "a1:000000;b2:000000");
         x.stove(0);
         x.hour();
@@ -474,7 +480,8 @@ public final class EdgeTermsTests {
         y.hour();
         Edge.counts(y, 3, 1, -1);
 
-        Edge.of(0, "(Who comes to a room by that falls on, if it GIVES, too.)", "through three storeys, through two, each FELL counted");
+        Edge.of(0, "(Who comes to a room by that falls on, if it GIVES, too.)",
+            "through three storeys, through two, each FELL counted");
         LetByTheDegree z = Due.thin("0,0/0,0/0,1", "a1:000000;b1:000000;b3:000000");
         z.stove(0);
         z.hour();
@@ -501,12 +508,14 @@ public final class EdgeTermsTests {
     // ---- the ROW, what is asked, what is refused
 
     private static void row() {
-        Edge.of(0, "Rows of numbers are compared from the first on.", "of 1, 2 and 2, 1, which have unlike first and last numbers");
+        Edge.of(0, "Rows of numbers are compared from the first on.",
+            "of 1, 2 and 2, 1, which have unlike first and last numbers");
         LetByTheDegree y = Due.thin("1,9,9", "b1:111111;c1:111111");
         Due.rule(y, "w");
         Due.asks(y, "lodge(1)", 2, () -> y.lodge(1), 1, 2);
 
-        Edge.of(0, "Fractions are told in lowest terms, upper and lower number (0 by 1).", "0, a whole one, one that can be made less");
+        Edge.of(0, "Fractions are told in lowest terms, upper and lower number (0 by 1).",
+            "0, a whole one, one that can be made less");
         LetByTheDegree z = Due.of("99,99", "a1:100000;a1:300000;b1:000000");
         Due.asks(z, "share(0) of 2 by 4", 0, () -> z.share(0), 1, 2);
         Due.asks(z, "share(1) of 6 by 4", 0, () -> z.share(1), 3, 2);
@@ -515,7 +524,8 @@ public final class EdgeTermsTests {
         Due.asks(z, "share(1) of 12 by 4", 0, () -> z.share(1), 3, 1);
 
         // 4 melt, whatever the two do.
-        Edge.of(0, "a number below 0 that is meant as such (below 0, too) comes with its ROW", "numbers of the ROW that are below 0");
+        Edge.of(0, "a number below 0 that is meant as such (below 0, too) comes with its ROW",
+            "numbers of the ROW that are below 0");
         LetByTheDegree w = Due.of("99", "a1:400000;a1:000000");
         Due.rule(w, "4");
         Due.asks(w, "rests(0, 1, 0)", 15, () -> w.rests(0, 1, 0), -4, -4);
@@ -588,7 +598,8 @@ public final class EdgeTermsTests {
     }
 
     private static void standing() {
-        Edge.of(0, "what is asked of HOURS to come looks on for 100 at most", "a floor that gives in the 100th HOUR, in the 101st");
+        Edge.of(0, "what is asked of HOURS to come looks on for 100 at most",
+            "a floor that gives in the 100th HOUR, in the 101st");
         LetByTheDegree x = Due.thin("99", "a1:000000");
         Due.rule(x, "h>0");
         Due.asks(x, "gives() in the 100th", 100, () -> x.gives(), 0, 1);
@@ -626,7 +637,8 @@ public final class EdgeTermsTests {
     }
 
     private static void refused() {
-        Edge.of(0, "Refused calls answer NONE, or false, and change nothing but THE TEXT", "each that can be refused, with all that can be told told");
+        Edge.of(0, "Refused calls answer NONE, or false, and change nothing but THE TEXT",
+            "each that can be refused, with all that can be told told");
         Edge.Call[] calls = {o -> o.set(0, 10), o -> o.doing(0, 6, 1), o -> o.sheet(4, 1, 1, 1), o -> o.move(2, 0),
             o -> o.move(0, 2), o -> o.stove(2), o -> o.hours(61), o -> o.pay(0, 0), o -> o.drips(101), o -> o.coldest(0),
             o -> o.lodge(0), o -> o.quiet(0), o -> o.share(2), o -> o.charges(101), o -> o.warm(2, 1), o -> o.carry(0),
@@ -640,7 +652,8 @@ public final class EdgeTermsTests {
         Edge.leaves(EdgeTermsTests::full, "sign(0)", -1, o -> o.sign(0));
         Edge.leaves(LetByTheDegree::new, "undo()", -1, o -> o.undo());
 
-        Edge.of(0, "which a call that can read it empties, whatever it answers", "each of the four, by a text that it can read and one that it can't");
+        Edge.of(0, "which a call that can read it empties, whatever it answers",
+            "each of the four, by a text that it can read and one that it can't");
         String[][] texts = {{"1,2", "1,x"}, {"a1:000000", "a1:00000x"}, {"w+i", "w+x"}, {"h;h", "h;x"}};
         for (int k = 0; k < texts.length; k++) {
             for (String s : texts[k]) {
@@ -686,7 +699,8 @@ public final class EdgeTermsTests {
         Edge.reads(Edge::busy, "rule()", "x", -1, LetByTheDegree::rule);
         Edge.reads(Edge::busy, "winter()", "x", -1, LetByTheDegree::winter);
 
-        Edge.of(0, "The ROW stays with NONE and with each number below 0 that tells why there is no answer (-2, -3 ..)", "behind such answers");
+        Edge.of(0, "The ROW stays with NONE and with each number below 0 that tells why there is no answer (-2, -3 ..)",
+            "behind such answers");
         Edge.leaves(Edge::busy, "thick(0, 101)", -2, o -> o.thick(0, 101));
         Edge.leaves(Edge::busy, "thick(2, 1)", -3, o -> o.thick(2, 1));
         Edge.leaves(Edge::busy, "gives(), none", -2, o -> o.gives());
@@ -726,7 +740,8 @@ public final class EdgeTermsTests {
         }
         Due.is("the 512th call, count(8)", x.count(8), 511);
 
-        Edge.of(0, "(all who are in ROOMS; unlike ROOMS; THE STOVE stays)", "one who is OUT is not asked, two don't share a ROOM, what THE STOVE melts can't be helped");
+        Edge.of(0, "(all who are in ROOMS; unlike ROOMS; THE STOVE stays)",
+            "one who is OUT is not asked, two don't share a ROOM, what THE STOVE melts can't be helped");
         LetByTheDegree y = Due.thin("0,9,9", "a1:900000;b1:000000;c1:000000");
         y.hour();
         Due.asks(y, "lodge(1)", 6, () -> y.lodge(1), 0, 1);

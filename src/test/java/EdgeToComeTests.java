@@ -69,7 +69,8 @@ public final class EdgeToComeTests {
         x.hour();
         Due.asks(x, "gives()", 1, () -> x.gives(), 2, 4);
 
-        Edge.of(20, "(of several the first), PEOPLE that FALL in that HOUR (bits)", "three floors at once; all who FALL in it, from whichever floor; none");
+        Edge.of(20, "(of several the first), PEOPLE that FALL in that HOUR (bits)",
+            "three floors at once; all who FALL in it, from whichever floor; none");
         LetByTheDegree y = Due.thin("9,2,2/0,2,9", "b1:444444;c1:444444;b2:444444;a2:000000;a1:000000");
         Due.asks(y, "gives()", 1, () -> y.gives(), 1, 15);
         LetByTheDegree z = Due.thin("5", "");
@@ -87,7 +88,8 @@ public final class EdgeToComeTests {
         x.hours(10);
         Due.asks(x, "drips(100) behind 10 HOURS", 90, () -> x.drips(100), 0, 0);
 
-        Edge.of(21, "the room with the most ICE then (of equal ones the first; NONE), how much (0 without)", "all alike, the last, ICE 0 everywhere; no ROOMS");
+        Edge.of(21, "the room with the most ICE then (of equal ones the first; NONE), how much (0 without)",
+            "all alike, the last, ICE 0 everywhere; no ROOMS");
         LetByTheDegree y = Due.thin("5,5/5,5", "a1:222222");
         Due.asks(y, "drips(0)", 0, () -> y.drips(0), 0, 5);
         Due.asks(y, "drips(1)", 0, () -> y.drips(1), 1, 5);
@@ -104,7 +106,8 @@ public final class EdgeToComeTests {
     }
 
     private static void coldest() {
-        Edge.of(22, "The least FROST (0 .. 9) with which it STANDS for n HOURS (1 .. 100): it.", "0, 1; 1 HOUR, 100; whatever FROST is now");
+        Edge.of(22, "The least FROST (0 .. 9) with which it STANDS for n HOURS (1 .. 100): it.",
+            "0, 1; 1 HOUR, 100; whatever FROST is now");
         for (int frost : new int[] {0, 2, 9}) {
             Edge.leaves(() -> frosty(frost, "99"), "coldest(1)", 1, o -> o.coldest(1));
             Edge.leaves(() -> frosty(frost, "99*(h>0)"), "coldest(1)", 0, o -> o.coldest(1));
@@ -144,7 +147,8 @@ public final class EdgeToComeTests {
     }
 
     private static void lodgeHours() {
-        Edge.of(23, "so that it STANDS for n HOURS (1 .. 40): how many", "1 HOUR, 40; a floor that gives in the last of them, in the next");
+        Edge.of(23, "so that it STANDS for n HOURS (1 .. 40): how many",
+            "1 HOUR, 40; a floor that gives in the last of them, in the next");
         Edge.asks(() -> lodgers("1", 1, "1"), "lodge(1) on ICE 1", 0, o -> o.lodge(1));
         Edge.asks(() -> lodgers("2", 1, "1"), "lodge(1) on ICE 2", 1, o -> o.lodge(1), 0);
         Edge.asks(() -> lodgers("40", 1, "1"), "lodge(39) on ICE 40", 1, o -> o.lodge(39), 0);
@@ -171,7 +175,8 @@ public final class EdgeToComeTests {
     }
 
     private static void lodgePeople() {
-        Edge.of(23, "How many ways there are to let PEOPLE that are in ROOMS live in unlike ROOMS from now on", "nobody, one, as many as ROOMS, one more, four in nine");
+        Edge.of(23, "How many ways there are to let PEOPLE that are in ROOMS live in unlike ROOMS from now on",
+            "nobody, one, as many as ROOMS, one more, four in nine");
         Edge.asks(() -> lodgers("9,9", 0, "0"), "lodge(1) of nobody", 1, o -> o.lodge(1));
         Edge.asks(Edge::homeless, "lodge(40) without a house", 1, o -> o.lodge(40));
         Edge.asks(() -> lodgers("9,9", 1, "0"), "lodge(1) of one", 2, o -> o.lodge(1), 0);
@@ -181,7 +186,8 @@ public final class EdgeToComeTests {
         Edge.asks(() -> lodgers("9", 4, "0"), "lodge(1) of four in one", 0, o -> o.lodge(1));
         Edge.asks(() -> lodgers("9,9,9/9,9,9/9,9,9", 4, "0"), "lodge(1) of four in nine", 3024, o -> o.lodge(1), 0, 1, 2, 3);
 
-        Edge.of(23, "the least row of ROOMS, by these PEOPLE (none without)", "one way only, by the last room; none; one who is OUT is not told");
+        Edge.of(23, "the least row of ROOMS, by these PEOPLE (none without)",
+            "one way only, by the last room; none; one who is OUT is not told");
         Edge.asks(() -> lodgers("1,1/1,9", 1, "w/2"), "lodge(1)", 1, o -> o.lodge(1), 4);
         Edge.asks(() -> lodgers("1,1/1,1", 1, "w/2"), "lodge(1)", 0, o -> o.lodge(1));
         LetByTheDegree x = Due.thin("0,9", "b1:000000;a1:000000;b1:000000");
@@ -201,7 +207,8 @@ public final class EdgeToComeTests {
     }
 
     private static void longestHours() {
-        Edge.of(24, "For how many HOURS (100 at most) it STANDS, if they live the best: the most", "none, one, 98, 99, 100; a floor that gives in the 101st");
+        Edge.of(24, "For how many HOURS (100 at most) it STANDS, if they live the best: the most",
+            "none, one, 98, 99, 100; a floor that gives in the 101st");
         Edge.asks(() -> lodgers("1", 1, "1"), "longest()", 0, o -> o.longest(), 0);
         Edge.asks(() -> lodgers("2", 1, "1"), "longest()", 1, o -> o.longest(), 0);
         Edge.asks(() -> lodgers("99", 1, "1"), "longest()", 98, o -> o.longest(), 0);
@@ -217,7 +224,8 @@ public final class EdgeToComeTests {
     }
 
     private static void longestPeople() {
-        Edge.of(24, "-2: there are fewer ROOMS than such PEOPLE; -3: more than 4 are.", "as many, one more; four, five; both; one who is OUT");
+        Edge.of(24, "-2: there are fewer ROOMS than such PEOPLE; -3: more than 4 are.",
+            "as many, one more; four, five; both; one who is OUT");
         Edge.asks(() -> lodgers("9", 1, "0"), "longest() of one in one", 100, o -> o.longest(), 0);
         Edge.leaves(() -> lodgers("9", 2, "0"), "longest() of two in one", -2, o -> o.longest());
         Edge.asks(() -> lodgers("9,9/9,9", 4, "0"), "longest() of four in four", 100, o -> o.longest(), 0, 1, 3, 4);
@@ -236,7 +244,8 @@ public final class EdgeToComeTests {
     }
 
     private static void quietHowMany() {
-        Edge.of(25, "The fewest DOINGS (one of PEOPLE, HOUR of the cycle: WARM 0 from now on) to be left off, 3 at most", "none, one, two, three, four of them needed");
+        Edge.of(25, "The fewest DOINGS (one of PEOPLE, HOUR of the cycle: WARM 0 from now on) to be left off, 3 at most",
+            "none, one, two, three, four of them needed");
         Edge.asks(() -> warm("9", "a1:000000"), "quiet(40)", 0, o -> o.quiet(40));
         Edge.asks(() -> warm("9", "a1:100000"), "quiet(40)", 1, o -> o.quiet(40), 0);
         Edge.asks(() -> warm("9", "a1:100001"), "quiet(40)", 2, o -> o.quiet(40), 0, 5);
@@ -280,7 +289,8 @@ public final class EdgeToComeTests {
     }
 
     private static void quietWhich() {
-        Edge.of(25, "the ROW: 6 times one and HOUR of each, rising: of as few the least row", "the first and the last that can be; more ways than one");
+        Edge.of(25, "the ROW: 6 times one and HOUR of each, rising: of as few the least row",
+            "the first and the last that can be; more ways than one");
         Edge.asks(() -> warm("9,9", "b1:000000;b1:000000;b1:000000;b1:000000;a1:000001"), "quiet(6)", 1, o -> o.quiet(6), 29);
         // Each of three is warm enough with one other that the floor gives: two of them have to be left off.
         LetByTheDegree x = Due.thin("2", Edge.lines(3, "222222"));

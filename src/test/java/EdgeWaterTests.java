@@ -15,7 +15,8 @@ public final class EdgeWaterTests {
     }
 
     private static void water() {
-        Edge.of(34, "ICE, WATER, THE POND together; the ROW: ICE, WATER, THE POND", "none of all, each of them alone, all of nine rooms");
+        Edge.of(34, "ICE, WATER, THE POND together; the ROW: ICE, WATER, THE POND",
+            "none of all, each of them alone, all of nine rooms");
         Edge.asks(LetByTheDegree::new, "water()", 0, o -> o.water(), 0, 0, 0);
         LetByTheDegree x = Due.thin("9,9", "");
         Due.rule(x, "i");
@@ -48,7 +49,8 @@ public final class EdgeWaterTests {
         Due.rule(late, "99*(h=8)");
         Due.asks(late, "thaw(8, 10), which would give in the next", 0, () -> late.thaw(8, 10), 1, 1);
 
-        Edge.of(35, "FROST is 0 by p tenths (0 .. 10), else as it is: 0; the ROW: the fraction", "never, always; 0 and 1; in lowest terms; FROST 0 already");
+        Edge.of(35, "FROST is 0 by p tenths (0 .. 10), else as it is: 0; the ROW: the fraction",
+            "never, always; 0 and 1; in lowest terms; FROST 0 already");
         Edge.asks(EdgeWaterTests::thin, "thaw(1, 0)", 0, o -> o.thaw(1, 0), 1, 1);
         Edge.asks(EdgeWaterTests::thin, "thaw(8, 0)", 0, o -> o.thaw(8, 0), 1, 1);
         Edge.asks(EdgeWaterTests::thin, "thaw(1, 10)", 0, o -> o.thaw(1, 10), 0, 1);
@@ -76,7 +78,8 @@ public final class EdgeWaterTests {
     }
 
     private static void leave() {
-        Edge.of(36, "The most HOURS (0 .. 8) for which that is v (0 .. 100) in 100 or more, and for each fewer, too.", "none, 1, 7, 8; just v in 100, one more; v 0, 100; p 0, 10");
+        Edge.of(36, "The most HOURS (0 .. 8) for which that is v (0 .. 100) in 100 or more, and for each fewer, too.",
+            "none, 1, 7, 8; just v in 100, one more; v 0, 100; p 0, 10");
         int[][] want = {{0, 0, 8}, {0, 100, 8}, {10, 0, 8}, {10, 1, 0}, {10, 100, 0}, {5, 100, 0}, {5, 51, 0}, {5, 50, 1},
             {5, 26, 1}, {5, 25, 2}, {5, 2, 5}, {5, 1, 6}, {5, 0, 8}, {1, 90, 1}, {1, 91, 0}, {1, 81, 2}, {1, 82, 1}, {1, 48, 6},
             {1, 47, 7}, {1, 44, 7}, {1, 43, 8}, {9, 10, 1}, {9, 11, 0}, {9, 1, 2}, {9, 2, 1}};
@@ -112,7 +115,8 @@ public final class EdgeWaterTests {
 
     private static void seasonDraws() {
         // The sums were told by the document's DRAWS alone, by numbers that don't wrap around.
-        Edge.of(37, "(as ints; R is seed at first), (R without sign, by 65536) % n", "seeds 0, 1, -1, the greatest, the least; 1 HOUR, 2, 60");
+        Edge.of(37, "(as ints; R is seed at first), (R without sign, by 65536) % n",
+            "seeds 0, 1, -1, the greatest, the least; 1 HOUR, 2, 60");
         int[] seeds = {0, 1, -1, Integer.MAX_VALUE, Integer.MIN_VALUE};
         int[] n = {1, 2, 60};
         int[][] sums = {{0, 6, 279}, {8, 11, 272}, {7, 9, 298}, {9, 9, 280}, {8, 16, 287}};
@@ -134,7 +138,8 @@ public final class EdgeWaterTests {
     }
 
     private static void seasonTold() {
-        Edge.of(37, "who is WARM 9 in it (as it was behind that; none: nobody)", "the first and the last of five; WARM 9 already; one who is OUT; nobody");
+        Edge.of(37, "who is WARM 9 in it (as it was behind that; none: nobody)",
+            "the first and the last of five; WARM 9 already; one who is OUT; nobody");
         // By seed 0 the second DRAW of 8 is 4, by seed 2147483647 it is 1.
         int[] seeds = {0, Integer.MAX_VALUE};
         int[] who = {4, 1};
@@ -202,7 +207,8 @@ public final class EdgeWaterTests {
     }
 
     private static void again() {
-        Edge.of(39, "They are as they were kept under a number.", "all of them; HEAT, PRICE, WARM, THE RULE, the ROW are not kept");
+        Edge.of(39, "They are as they were kept under a number.",
+            "all of them; HEAT, PRICE, WARM, THE RULE, the ROW are not kept");
         LetByTheDegree x = Edge.busy();
         x.end(0);
         String ahead = Due.world(x) + x.water() + Due.rowOf(x);
@@ -225,7 +231,8 @@ public final class EdgeWaterTests {
         Edge.room(y, 0, 10, 0, 0, 1);
         Due.row(y, 26, 2, 0);
 
-        Edge.of(39, "Refused: nothing kept, PEOPLE came since.", "never kept, the other kept, -1, 2; one came, none came; a house anew");
+        Edge.of(39, "Refused: nothing kept, PEOPLE came since.",
+            "never kept, the other kept, -1, 2; one came, none came; a house anew");
         Edge.leaves(LetByTheDegree::new, "again(0)", 0, o -> o.again(0) ? 1 : 0);
         for (int i : new int[] {1, -1, 2, Integer.MAX_VALUE, Integer.MIN_VALUE}) {
             Edge.leaves(Edge::busy, "again(" + i + ")", 0, o -> o.again(i) ? 1 : 0);
@@ -269,7 +276,8 @@ public final class EdgeWaterTests {
             Edge.leaves(Edge::busy, "count(" + what + ")", busy[what], o -> o.count(w));
         }
 
-        Edge.of(40, "3: those that are OUT (bits), 4: the room of THE STOVE (NONE)", "none, all five; the first room, the last, nowhere");
+        Edge.of(40, "3: those that are OUT (bits), 4: the room of THE STOVE (NONE)",
+            "none, all five; the first room, the last, nowhere");
         LetByTheDegree x = Due.thin("0,9,9/9,9,9/0,9,9", "a3:000000;a3:000000;a3:000000;a3:000000;a3:000000");
         Edge.counts(x, 3, 0, -1);
         x.hour();
@@ -279,7 +287,8 @@ public final class EdgeWaterTests {
         x.stove(8);
         Edge.counts(x, 4, 8);
 
-        Edge.of(40, "9: ROOMS with ICE 0 (bits)", "none, all nine, the first and the last; rooms that are not there are not among them");
+        Edge.of(40, "9: ROOMS with ICE 0 (bits)",
+            "none, all nine, the first and the last; rooms that are not there are not among them");
         LetByTheDegree y = Due.of("1,1,1/1,1,1/1,1,1", "");
         Edge.counts(y, 9, 0);
         y.sheet(3, 0, 0, 0);
@@ -303,7 +312,8 @@ public final class EdgeWaterTests {
     }
 
     private static void row() {
-        Edge.of(41, "Number i of the ROW. NoSuchElementException: none such.", "of none, one, five: the first, the last, one less, one more");
+        Edge.of(41, "Number i of the ROW. NoSuchElementException: none such.",
+            "of none, one, five: the first, the last, one less, one more");
         for (int n = 0; n <= 5; n++) {
             LetByTheDegree x = Due.of("9", Edge.lines(n, "123456"));
             x.charges(2);
