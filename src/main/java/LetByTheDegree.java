@@ -28,8 +28,8 @@ public final class LetByTheDegree {
     private final State scratch = new State();
     private final Course course = new Course(house);
     private final Past past = new Past();
-    private final RuleReader ruleReader = new RuleReader();
-    private final Winter acts = new Winter();
+    private final RuleReader ruleReader = new RuleReader(text);
+    private final Winter acts = new Winter(text);
     private final Lodging lodging = new Lodging(house, course);
     private final Silence silence = new Silence(house, course);
     private final StoveWay stoveWay = new StoveWay(house, course);
@@ -51,10 +51,10 @@ public final class LetByTheDegree {
     }
 
     public int house() {
-        int wrong = house.readHouse(text);
-        text.length = 0;
-        if (wrong != NONE) {
-            return -1 - wrong;
+        boolean right = house.readHouse(text);
+        text.empty();
+        if (!right) {
+            return -1 - text.at;
         }
         int rooms = house.build(state);
         past.forgetDone();
@@ -63,13 +63,16 @@ public final class LetByTheDegree {
     }
 
     public int people() {
-        int wrong = house.readPeople(text);
-        if (wrong == NONE && house.toldLines > 0) {
-            house.admit(text, state);
+        boolean right = house.readPeople(text);
+        text.empty();
+        if (!right) {
+            return -1 - text.at;
+        }
+        if (house.toldLines > 0) {
+            house.admit(state);
             past.forgetDone();
         }
-        text.length = 0;
-        return wrong != NONE ? -1 - wrong : house.toldLines;
+        return house.toldLines;
     }
 
     public int rule() {
@@ -77,10 +80,10 @@ public final class LetByTheDegree {
             house.rule.becomeUntold();
             return 0;
         }
-        int wrong = ruleReader.read(text);
-        text.length = 0;
-        if (wrong != NONE) {
-            return -1 - wrong;
+        boolean right = ruleReader.read();
+        text.empty();
+        if (!right) {
+            return -1 - text.at;
         }
         house.rule.become(ruleReader.code, ruleReader.size);
         return 0;
@@ -242,10 +245,10 @@ public final class LetByTheDegree {
     }
 
     public int winter() {
-        int wrong = acts.read(text);
-        text.length = 0;
-        if (wrong != NONE) {
-            return -1 - wrong;
+        boolean right = acts.read();
+        text.empty();
+        if (!right) {
+            return -1 - text.at;
         }
         scratch.become(state);
         course.begin();
@@ -666,10 +669,10 @@ public final class LetByTheDegree {
         course.forgetGiven();
         int r = seed;
         for (int k = 0; k < n; k++) {
-            r = drawn(r);
-            scratch.frost = (r >>> 16) % 10;
-            r = drawn(r);
-            course.feverish = (r >>> 16) % (house.persons + 3);
+            r = next(r);
+            scratch.frost = draw(r, 10);
+            r = next(r);
+            course.feverish = draw(r, house.persons + 3);
             course.goOn(scratch, 1);
             course.countGiven();
         }
@@ -679,8 +682,12 @@ public final class LetByTheDegree {
         return course.falls;
     }
 
-    private static int drawn(int r) {
+    private static int next(int r) {
         return r * 1103515245 + 12345;
+    }
+
+    private static int draw(int r, int n) {
+        return n < 1 ? 0 : (r >>> 16) % n;
     }
 
     // ---- kept
@@ -745,11 +752,14 @@ public final class LetByTheDegree {
         return sign >= '0' && sign <= '9' ? sign - '0' : NONE;
     }
 
-    /** THE TEXT. */
+    /** THE TEXT, and the place at which it is read. */
     private static final class Signs {
         private static final int MOST = 80;
         private final char[] signs = new char[MOST];
         private int length;
+        /** Where a sign can't stand, reading stays at it. */
+        private int at;
+        private int stop;
 
         boolean append(int v) {
             if (length > MOST - 4) {
@@ -770,25 +780,53 @@ public final class LetByTheDegree {
             return true;
         }
 
-        /** The sign at a place, or END behind the last one and from stop on. */
-        int signAt(int place, int stop) {
-            return place >= 0 && place < length && place < stop ? signs[place] : END;
+        void empty() {
+            length = 0;
         }
 
-        int digitAt(int place, int stop) {
-            return digitOf(signAt(place, stop));
+        /** It is read from its first sign on, so many of them at most. */
+        void begin(int most) {
+            at = 0;
+            stop = most;
+        }
+
+        /** The sign that comes next, or END behind the last one that is read. */
+        int next() {
+            return at >= 0 && at < length && at < stop ? signs[at] : END;
+        }
+
+        int nextDigit() {
+            return digitOf(next());
+        }
+
+        /** Goes on behind the next sign, if it is right: whether it was. */
+        boolean step(boolean right) {
+            if (right) {
+                at++;
+            }
+            return right;
+        }
+
+        boolean stepOver(char sign) {
+            return step(next() == sign);
+        }
+
+        /** Whether all of it has been read: a text of more signs than are read never is. */
+        boolean ended() {
+            return at >= length;
         }
     }
 
     /** What stays as it is while HOURS go by: rooms, doings, heat, price, the rule. */
     private static final class House {
-        private static final int LINE = 9;
         private static final int PEOPLE_SIGNS = 76;
         /** The bits of rooms 0, 3 and 6. */
         private static final int FIRST_COLUMN = 1 | 1 << WIDTH | 1 << 2 * WIDTH;
         private final Rule rule = new Rule();
         private final int[] doings = new int[DOINGS];
         private final int[] toldIce = new int[ROOMS];
+        private final int[] toldRooms = new int[PERSONS];
+        private final int[] toldDoings = new int[DOINGS];
         private int toldColumns;
         private int toldStoreys;
         private int toldLines;
@@ -846,44 +884,52 @@ public final class LetByTheDegree {
             return bits;
         }
 
-        /** Reads THE HOUSE without building it: the place of the sign that can't stand there, or NONE. */
-        int readHouse(Signs text) {
-            int at = 0;
-            int x = 0;
+        /** Reads THE HOUSE without building it: whether it can be read. */
+        boolean readHouse(Signs text) {
+            text.begin(Signs.MOST);
             toldColumns = WIDTH;
-            toldStoreys = 1;
-            for (int k = 0; k < ROOMS; k++) {
-                int ice = text.digitAt(at, Signs.MOST);
-                if (ice == NONE) {
-                    return at;
+            for (int y = 0; y < WIDTH; y++) {
+                toldStoreys = y + 1;
+                if (!readStorey(text, y)) {
+                    return false;
                 }
-                at++;
-                int second = text.digitAt(at, Signs.MOST);
-                if (second != NONE) {
-                    ice = 10 * ice + second;
-                    at++;
+                if (text.ended()) {
+                    return true;
                 }
-                toldIce[k] = ice;
-                x++;
-                int sign = text.signAt(at, Signs.MOST);
-                if (sign == ',' && x < toldColumns) {
-                    at++;
-                    continue;
+                if (toldStoreys == WIDTH || !text.stepOver('/')) {
+                    return false;
                 }
-                if (toldStoreys == 1) {
-                    toldColumns = x;
-                }
-                if (x == toldColumns && sign == END) {
-                    return NONE;
-                }
-                if (x < toldColumns || sign != '/' || toldStoreys == WIDTH) {
-                    return at;
-                }
-                toldStoreys++;
-                x = 0;
-                at++;
             }
-            return at;
+            return false;
+        }
+
+        private boolean readStorey(Signs text, int y) {
+            for (int x = 0; x < toldColumns; x++) {
+                int ice = readIce(text);
+                if (ice == NONE) {
+                    return false;
+                }
+                toldIce[WIDTH * y + x] = ice;
+                if (x + 1 < toldColumns && !text.stepOver(',')) {
+                    if (y > 0) {
+                        return false;
+                    }
+                    // The first storey tells how many columns there are.
+                    toldColumns = x + 1;
+                }
+            }
+            return true;
+        }
+
+        private static int readIce(Signs text) {
+            int ice = text.nextDigit();
+            if (text.step(ice != NONE)) {
+                int second = text.nextDigit();
+                if (text.step(second != NONE)) {
+                    ice = 10 * ice + second;
+                }
+            }
+            return ice;
         }
 
         /** Builds the house that was read last: how many ROOMS. */
@@ -891,77 +937,66 @@ public final class LetByTheDegree {
             columns = toldColumns;
             storeys = toldStoreys;
             persons = 0;
-            s.clear();
             rooms = 0;
-            int told = 0;
+            s.clear();
             for (int r = 0; r < ROOMS; r++) {
                 if (has(r)) {
-                    s.ice[r] = toldIce[told];
+                    s.ice[r] = toldIce[r];
                     rooms |= 1 << r;
-                    told++;
                 }
             }
-            return told;
+            return columns * storeys;
         }
 
-        /** Reads LINES without admitting anybody: the place of the sign that can't stand there, or NONE. */
-        int readPeople(Signs text) {
+        /** Reads LINES without admitting anybody: whether all of them can come. */
+        boolean readPeople(Signs text) {
+            text.begin(PEOPLE_SIGNS);
             toldLines = 0;
-            if (text.length == 0) {
-                return NONE;
+            if (text.ended()) {
+                return true;
             }
-            int at = 0;
-            for (int k = persons; k < PERSONS; k++) {
-                int right = rightSigns(text, at);
-                at += right;
-                if (right < LINE) {
-                    return at;
+            for (int p = persons; p < PERSONS; p++) {
+                if (!readLine(text, p)) {
+                    return false;
                 }
                 toldLines++;
-                int sign = text.signAt(at, PEOPLE_SIGNS);
-                if (sign == END) {
-                    return NONE;
+                if (text.ended()) {
+                    return true;
                 }
-                if (sign != ';') {
-                    return at;
+                if (!text.stepOver(';')) {
+                    return false;
                 }
-                at++;
             }
-            return at;
+            return false;
         }
 
-        /** How many signs from a place on are those of a LINE. */
-        private int rightSigns(Signs text, int at) {
-            int x = text.signAt(at, PEOPLE_SIGNS) - 'a';
-            if (x < 0 || x >= columns) {
-                return 0;
+        private boolean readLine(Signs text, int p) {
+            int x = text.next() - 'a';
+            if (!text.step(x >= 0 && x < columns)) {
+                return false;
             }
-            int storey = text.digitAt(at + 1, PEOPLE_SIGNS);
-            if (storey < 1 || storey > storeys) {
-                return 1;
+            int y = text.nextDigit() - 1;
+            if (!text.step(y >= 0 && y < storeys) || !text.stepOver(':')) {
+                return false;
             }
-            if (text.signAt(at + 2, PEOPLE_SIGNS) != ':') {
-                return 2;
+            toldRooms[p] = WIDTH * y + x;
+            for (int k = 0; k < CYCLE; k++) {
+                int warm = text.nextDigit();
+                if (!text.step(warm != NONE)) {
+                    return false;
+                }
+                toldDoings[p * CYCLE + k] = warm;
             }
-            int right = 3;
-            while (right < LINE && text.digitAt(at + right, PEOPLE_SIGNS) != NONE) {
-                right++;
-            }
-            return right;
+            return true;
         }
 
         /** Lets in those whom the LINES that were read last tell of. */
-        void admit(Signs text, State s) {
+        void admit(State s) {
             for (int line = 0; line < toldLines && persons < PERSONS; line++) {
-                int at = line * (LINE + 1);
-                int x = text.signAt(at, PEOPLE_SIGNS) - 'a';
-                int y = text.digitAt(at + 1, PEOPLE_SIGNS) - 1;
-                s.where[persons] = WIDTH * y + x;
+                s.where[persons] = toldRooms[persons];
                 s.owes[persons] = 0;
                 s.fell[persons] = 0;
-                for (int k = 0; k < CYCLE; k++) {
-                    doings[persons * CYCLE + k] = text.digitAt(at + 3 + k, PEOPLE_SIGNS);
-                }
+                System.arraycopy(toldDoings, persons * CYCLE, doings, persons * CYCLE, CYCLE);
                 persons++;
             }
         }
@@ -1075,25 +1110,22 @@ public final class LetByTheDegree {
         }
     }
 
-    /** Reads a text as a rule. Where a sign can't stand, the reading stays at it. */
+    /** Reads THE TEXT as a rule. */
     private static final class RuleReader {
         private static final int BRACKETS = 4;
+        private final Signs text;
         private final int[] code = new int[Rule.MOST];
         private int size;
-        private Signs signs;
-        private int at;
 
-        /** The place of the sign that can't stand there, or NONE. */
-        int read(Signs text) {
-            signs = text;
-            at = 0;
-            size = 0;
-            boolean whole = expression(0) && next() == END;
-            return whole && text.length <= Rule.MOST ? NONE : at;
+        RuleReader(Signs text) {
+            this.text = text;
         }
 
-        private int next() {
-            return signs == null ? END : signs.signAt(at, Rule.MOST);
+        /** Whether it can be read. */
+        boolean read() {
+            text.begin(Rule.MOST);
+            size = 0;
+            return expression(0) && text.ended();
         }
 
         private void emit(int c) {
@@ -1104,28 +1136,23 @@ public final class LetByTheDegree {
         }
 
         private boolean expression(int depth) {
-            if (!chain(depth, false)) {
-                return false;
-            }
-            int sign = next();
-            if (sign == '<' || sign == '>' || sign == '=') {
-                at++;
-                if (!chain(depth, false)) {
-                    return false;
-                }
+            boolean right = chain(depth, false);
+            int sign = text.next();
+            if (right && text.step(sign == '<' || sign == '>' || sign == '=')) {
+                right = chain(depth, false);
                 emit(Rule.OPERATOR + sign);
             }
-            return true;
+            return right;
         }
 
         /** Parts that are joined from the left: things by * and / (tight), or such chains by + and -. */
         private boolean chain(int depth, boolean tight) {
             boolean right = part(depth, tight);
-            for (int k = 0; k < Rule.MOST && right && joins(next(), tight); k++) {
-                int sign = next();
-                at++;
+            int sign = text.next();
+            for (int k = 0; k < Rule.MOST && right && text.step(joins(sign, tight)); k++) {
                 right = part(depth, tight);
                 emit(Rule.OPERATOR + sign);
+                sign = text.next();
             }
             return right;
         }
@@ -1140,51 +1167,43 @@ public final class LetByTheDegree {
 
         private boolean signed(int depth) {
             boolean negated = false;
-            for (int k = 0; k < Rule.MOST && next() == '-'; k++) {
-                at++;
+            for (int k = 0; k < Rule.MOST && text.stepOver('-'); k++) {
                 negated = !negated;
             }
-            if (!thing(depth)) {
-                return false;
-            }
+            boolean right = thing(depth);
             if (negated) {
                 emit(Rule.NEGATE);
             }
-            return true;
+            return right;
         }
 
         private boolean thing(int depth) {
-            int sign = next();
+            int sign = text.next();
             if (sign == '(') {
-                return depth < BRACKETS && bracket(depth);
+                return bracket(depth);
             }
             if (digitOf(sign) != NONE) {
                 number();
                 return true;
             }
             int fact = sign == END ? NONE : Rule.LETTERS.indexOf((char) sign);
-            if (fact < 0) {
+            if (!text.step(fact >= 0)) {
                 return false;
             }
-            at++;
             emit(Rule.FACT + fact);
             return true;
         }
 
         private boolean bracket(int depth) {
-            at++;
-            if (!expression(depth + 1) || next() != ')') {
-                return false;
-            }
-            at++;
-            return true;
+            return text.step(depth < BRACKETS) && expression(depth + 1) && text.stepOver(')');
         }
 
         private void number() {
             int value = 0;
-            for (int k = 0; k < 3 && digitOf(next()) != NONE; k++) {
-                value = 10 * value + digitOf(next());
-                at++;
+            int digit = text.nextDigit();
+            for (int k = 0; k < 3 && text.step(digit != NONE); k++) {
+                value = 10 * value + digit;
+                digit = text.nextDigit();
             }
             emit(value);
         }
@@ -1466,104 +1485,90 @@ public final class LetByTheDegree {
         }
     }
 
-    /** A WINTER as a text tells it: its ACTS. */
+    /** A WINTER as THE TEXT tells it: its ACTS. */
     private static final class Winter {
         private static final int SIGNS = 60;
+        /** An ACT and the ; behind it are two signs at least. */
         private static final int MOST_ACTS = SIGNS / 2;
+        private final Signs text;
         private final int[] kind = new int[MOST_ACTS];
         private final int[] who = new int[MOST_ACTS];
         private final int[] value = new int[MOST_ACTS];
         private int size;
-        private Signs signs;
-        private int at;
 
-        /** The place of the sign that can't stand there, or NONE. */
-        int read(Signs text) {
-            signs = text;
-            at = 0;
+        Winter(Signs text) {
+            this.text = text;
+        }
+
+        /** Whether it can be read. */
+        boolean read() {
+            text.begin(SIGNS);
             size = 0;
-            if (text.length == 0) {
-                return NONE;
+            if (text.ended()) {
+                return true;
             }
-            // An ACT and the ; behind it are two signs at least.
             for (int k = 0; k < MOST_ACTS; k++) {
-                if (!act()) {
-                    return at;
+                if (!act(k)) {
+                    return false;
                 }
                 size++;
-                int sign = next();
-                if (sign == END) {
-                    return text.length <= SIGNS ? NONE : at;
+                if (text.ended()) {
+                    return true;
                 }
-                if (sign != ';') {
-                    return at;
+                if (!text.stepOver(';')) {
+                    return false;
                 }
-                at++;
             }
-            return at;
+            return false;
         }
 
-        private int next() {
-            return signs == null ? END : signs.signAt(at, SIGNS);
-        }
-
-        private boolean act() {
-            if (size >= MOST_ACTS) {
+        private boolean act(int k) {
+            if (k < 0 || k >= MOST_ACTS) {
                 return false;
             }
-            int sign = next();
-            if (sign != 'h' && sign != 'm' && sign != 's' && sign != 'f') {
+            int sign = text.next();
+            if (!text.step(sign == 'h' || sign == 'm' || sign == 's' || sign == 'f')) {
                 return false;
             }
-            at++;
-            kind[size] = sign;
-            who[size] = NONE;
+            kind[k] = sign;
             switch (sign) {
                 case 'h':
-                    howLong();
+                    value[k] = Math.max(1, text.nextDigit());
+                    text.step(text.nextDigit() >= 1);
                     return true;
                 case 'f':
-                    value[size] = digitOf(next());
-                    return oneOn(value[size] != NONE);
+                    value[k] = text.nextDigit();
+                    return text.step(value[k] != NONE);
                 case 'm':
-                    who[size] = digitOf(next());
-                    return oneOn(who[size] != NONE) && place();
+                    who[k] = text.nextDigit();
+                    return text.step(who[k] != NONE) && place(k);
                 default:
-                    value[size] = NONE;
-                    return next() == '-' ? oneOn(true) : place();
+                    value[k] = NONE;
+                    return text.stepOver('-') || place(k);
             }
         }
 
-        private boolean oneOn(boolean right) {
-            if (right) {
-                at++;
-            }
-            return right;
-        }
-
-        private void howLong() {
-            int hours = digitOf(next());
-            value[size] = Math.max(1, hours);
-            oneOn(hours >= 1);
-        }
-
-        private boolean place() {
-            int x = next() - 'a';
-            if (!oneOn(x >= 0 && x < WIDTH)) {
+        private boolean place(int k) {
+            int x = text.next() - 'a';
+            if (!text.step(x >= 0 && x < WIDTH)) {
                 return false;
             }
-            int storey = digitOf(next());
-            value[size] = WIDTH * (storey - 1) + x;
-            return oneOn(storey >= 1 && storey <= WIDTH);
+            int y = text.nextDigit() - 1;
+            value[k] = WIDTH * y + x;
+            return text.step(y >= 0 && y < WIDTH);
         }
     }
 
     /** Ways to let those who are in ROOMS live in unlike ROOMS. */
     private static final class Lodging {
         private static final int MOST = 4;
-        /** Who lives in a column is told by a number of three digits to the base of 5, by its storeys: 0 for nobody. */
-        private static final int[] PLACES = {1, 5, 25};
-        private static final int CODES = 125;
+        /**
+         * Who lives in a column is told by a number of three digits to the base of 5, by its storeys from the
+         * last digit on: 0 for nobody.
+         */
+        private static final int BASE = MOST + 1;
+        private static final int[] PLACES = {1, BASE, BASE * BASE};
+        private static final int CODES = BASE * BASE * BASE;
         private final House house;
         private final Course course;
         private final State base = new State();
@@ -1622,8 +1627,10 @@ public final class LetByTheDegree {
         private boolean canLive(int c, int code) {
             scratch.become(base);
             int lodged = 0;
+            int rest = code;
             for (int y = 0; y < WIDTH; y++) {
-                int k = code / PLACES[y] % (MOST + 1) - 1;
+                int k = rest % BASE - 1;
+                rest /= BASE;
                 if (k >= 0) {
                     if (k >= size || !house.has(WIDTH * y + c) || scratch.where[lodgers[k]] != NONE) {
                         return false;
