@@ -365,7 +365,7 @@ public final class LetByTheDegree {
         return -2;
     }
 
-    // ---- who lives where
+    // ---- who lives where (all who are in ROOMS; unlike ROOMS; THE STOVE stays)
 
     public int lodge(int n) {
         if (n < 1 || n > 40) {

@@ -6,8 +6,8 @@ import java.nio.file.Path;
 import java.util.NoSuchElementException;
 
 /**
- * What the edges' tests have in common. A case tells the promise (0: what stands ahead of them) and the document's own words,
- * which have to stand there. No object in these tests is used for more than 512 calls.
+ * What the edges' and the sentences' tests have in common. A case tells the promise (0: what stands ahead of them) and the
+ * document's own words, which have to stand there. No object in these tests is used for more than 512 calls.
  */
 final class Edge {
     private static final Path DOC = Path.of("../shared/DOC.md");
@@ -40,9 +40,18 @@ final class Edge {
                 throw new UncheckedIOException(e);
             }
         }
-        int from = whole.indexOf(promise == 0 ? "## What it is" : "## Promise " + promise + ":");
-        int to = whole.indexOf(promise == 0 ? " ## Promise 1:" : " ## ", from + 1);
+        int from = start(whole, promise);
+        int to = stop(whole, promise);
         return from < 0 || to < 0 ? "" : whole.substring(from, to);
+    }
+
+    /** Where the document, in one line, begins to tell of a promise. */
+    static int start(String doc, int promise) {
+        return doc.indexOf(promise == 0 ? "## What it is" : "## Promise " + promise + ":");
+    }
+
+    static int stop(String doc, int promise) {
+        return doc.indexOf(promise == 0 ? " ## Promise 1:" : " ## ", start(doc, promise) + 1);
     }
 
     // ---- calls that change nothing

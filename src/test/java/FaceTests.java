@@ -28,7 +28,7 @@ public final class FaceTests {
         source();
         anyArguments();
         room();
-        edges();
+        headings();
         Due.end();
     }
 
@@ -160,19 +160,24 @@ public final class FaceTests {
         }
     }
 
-    /** Whether each promise, and what stands ahead of them, has an edge's test. */
-    private static void edges() throws IOException {
-        Due.promise("each promise has tests of its edges");
-        Set<Integer> found = new HashSet<>();
-        for (String part : new String[] {"Terms", "House", "Hours", "ToCome", "Shares", "Water"}) {
-            String tests = Files.readString(Path.of("src/test/java/Edge" + part + "Tests.java"), StandardCharsets.UTF_8);
-            Matcher m = Pattern.compile("Edge\\.of\\((\\d+), ").matcher(tests);
-            while (m.find()) {
-                found.add(Integer.parseInt(m.group(1)));
-            }
+    /** The document's "Ahead of the calls .. the interface says: ---- ..", in the source's order of calls. */
+    private static void headings() throws IOException {
+        Due.promise("what stands ahead of the calls");
+        String doc = Files.readString(Path.of("../shared/DOC.md"), StandardCharsets.UTF_8);
+        List<String> want = new ArrayList<>();
+        Matcher said = Pattern.compile("Ahead of the calls (.*) the interface says: (---- .*)\\.\n").matcher(doc);
+        while (said.find()) {
+            want.add(said.group(2));
+            want.addAll(Arrays.asList(said.group(1).replace("`", "").split(", ")));
         }
-        for (int promise = 0; promise <= 41; promise++) {
-            Due.is("promise " + promise + " has one", found.contains(promise), true);
+        List<String> got = new ArrayList<>();
+        String source = Files.readString(Path.of(SOURCE), StandardCharsets.UTF_8);
+        Matcher told = Pattern.compile("(?m)^    (?:// (---- .*)|public (?:int|long|boolean) (\\w+)\\(.*)$").matcher(source);
+        while (told.find()) {
+            got.add(told.group(1) != null ? told.group(1) : told.group(2));
+        }
+        if (!got.equals(want)) {
+            Due.wrong("the source has " + got + ", due is " + want);
         }
     }
 
