@@ -143,6 +143,20 @@ public final class FaceTests {
                 "System.arraycopy").contains(library.group()), true);
         }
         methodsAreShort(whole);
+        divisorsAreTested(code);
+    }
+
+    /** What divides is a number, a constant, or is compared with 0 or 1 ahead of it. */
+    private static void divisorsAreTested(String code) {
+        Matcher m = Pattern.compile("[/%]=? (\\w*)([\\[.(]?)").matcher(code.replaceAll("'.'", "' '"));
+        while (m.find()) {
+            boolean constant = m.group(1).matches("[A-Z0-9_]+") && m.group(2).isEmpty();
+            String ahead = code.substring(Math.max(0, m.start() - 200), m.start());
+            boolean tested = Pattern.compile("\\b" + m.group(1) + " (==|!=|<) [01]\\b").matcher(ahead).find();
+            if (!constant && (m.group(1).isEmpty() || !tested)) {
+                Due.wrong("a divisor that isn't tested: " + code.substring(m.start(), Math.min(code.length(), m.start() + 40)));
+            }
+        }
     }
 
     private static void methodsAreShort(String whole) {
