@@ -896,7 +896,7 @@ public final class LetByTheDegree {
                 if (text.ended()) {
                     return true;
                 }
-                if (toldStoreys == WIDTH || !text.stepOver('/')) {
+                if (toldStoreys < WIDTH && !text.stepOver('/')) {
                     return false;
                 }
             }
@@ -1604,8 +1604,7 @@ public final class LetByTheDegree {
             all = everyWay;
             ways = 0;
             most = NONE;
-            for (int c = 0; c < WIDTH; c++) {
-                codes[c] = 0;
+            for (int c = 0; c < WIDTH && c < house.columns; c++) {
                 searchColumn(c);
             }
             place(0, 0);
@@ -1626,7 +1625,6 @@ public final class LetByTheDegree {
         /** Whether just those of a code can live in a column; if they can, the scratch state has them there. */
         private boolean canLive(int c, int code) {
             scratch.become(base);
-            int lodged = 0;
             int rest = code;
             for (int y = 0; y < WIDTH; y++) {
                 int k = rest % BASE - 1;
@@ -1636,10 +1634,9 @@ public final class LetByTheDegree {
                         return false;
                     }
                     scratch.where[lodgers[k]] = WIDTH * y + c;
-                    lodged++;
                 }
             }
-            return c < house.columns && size - lodged <= (house.columns - 1) * house.storeys;
+            return true;
         }
 
         private void place(int k, int taken) {
