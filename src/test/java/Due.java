@@ -74,9 +74,9 @@ final class Due {
 
     /** A call that is answered so, changes nothing, and leaves the row. */
     static void leaves(LetByTheDegree x, String call, long want, LongSupplier c) {
-        String ahead = all(x) + rowOf(x);
+        String ahead = glance(x) + rowOf(x);
         is(call, c.getAsLong(), want);
-        String behind = all(x) + rowOf(x);
+        String behind = glance(x) + rowOf(x);
         if (!ahead.equals(behind)) {
             wrong(call + " made of " + ahead + " " + behind);
         }
@@ -84,10 +84,10 @@ final class Due {
 
     /** A question that is answered so, with its row, and changes nothing else. */
     static void asks(LetByTheDegree x, String call, long want, LongSupplier c, long... row) {
-        String ahead = all(x);
+        String ahead = glance(x);
         is(call, c.getAsLong(), want);
         row(x, row);
-        String behind = all(x);
+        String behind = glance(x);
         if (!ahead.equals(behind)) {
             wrong(call + " made of " + ahead + " " + behind);
         }
@@ -101,6 +101,15 @@ final class Due {
         return b.toString();
     }
 
+    /** Few calls, as an object has no more than 512 of them; Edge compares all there is. */
+    private static String glance(LetByTheDegree x) {
+        StringBuilder b = new StringBuilder();
+        for (int what : new int[] {3, 4, 6, 8, 9, 10, 12}) {
+            b.append(' ').append(x.count(what));
+        }
+        return b.toString();
+    }
+
     /** All that can be seen of an object but for its row. */
     static String all(LetByTheDegree x) {
         return world(x) + " heat " + x.count(5) + " price " + x.count(7) + " undo " + x.count(10) + " text " + x.count(12);
@@ -108,17 +117,20 @@ final class Due {
 
     /** What is undone and kept: of rooms, of people, the pond, now, frost, the stove. */
     static String world(LetByTheDegree x) {
+        int columns = x.count(0);
+        int storeys = x.count(1);
+        int persons = x.count(2);
         StringBuilder b = new StringBuilder();
-        b.append(x.count(0)).append('x').append(x.count(1)).append(" now ").append(x.count(8));
+        b.append(columns).append('x').append(storeys).append(" now ").append(x.count(8));
         b.append(" frost ").append(x.count(6)).append(" stove ").append(x.count(4)).append(" rooms");
-        for (int y = 0; y < x.count(1); y++) {
-            for (int k = 0; k < x.count(0); k++) {
+        for (int y = 0; y < storeys; y++) {
+            for (int k = 0; k < columns; k++) {
                 b.append(' ').append(x.room(3 * y + k, 0)).append('+').append(x.room(3 * y + k, 1));
                 b.append(':').append(x.room(3 * y + k, 3));
             }
         }
         b.append(" people");
-        for (int p = 0; p < x.count(2); p++) {
+        for (int p = 0; p < persons; p++) {
             for (int what = 0; what < 5; what++) {
                 b.append(what == 0 ? ' ' : ',').append(x.person(p, what));
             }

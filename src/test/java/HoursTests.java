@@ -390,18 +390,19 @@ public final class HoursTests {
         }
         Due.leaves(x, "undo()", -1, () -> x.undo());
         // All is as it was ahead, FROST and ICE that were set since, too; HEAT and PRICE are not undone.
-        x.hour();
-        x.set(1, 8);
-        x.set(0, 8);
-        x.set(2, 8);
-        x.sheet(2, 4, 44, 0);
-        x.doing(0, 0, 1);
-        x.undo();
-        Due.is("count(6)", x.count(6), 0);
-        Due.is("room(0, 0)", x.room(0, 0), 2);
-        Due.is("count(5)", x.count(5), 8);
-        Due.is("count(7)", x.count(7), 8);
-        Due.is("person(0, 3)", x.person(0, 3), 1);
+        LetByTheDegree y = Due.thin("2,9/1,9", "a1:987654;b2:333333");
+        y.hour();
+        y.set(1, 8);
+        y.set(0, 8);
+        y.set(2, 8);
+        y.sheet(2, 4, 44, 0);
+        y.doing(0, 0, 1);
+        y.undo();
+        Due.is("count(6)", y.count(6), 0);
+        Due.is("room(0, 0)", y.room(0, 0), 2);
+        Due.is("count(5)", y.count(5), 8);
+        Due.is("count(7)", y.count(7), 8);
+        Due.is("person(0, 3)", y.person(0, 3), 1);
     }
 
     private static void undoForgotten() {

@@ -4,16 +4,19 @@ import java.util.Random;
 /** Runs of calls drawn by seeds, each answered by the class and by the model alike. */
 public final class ModelTests {
     private static final int CALLS = 42;
+    /** An object is used for at most 512 calls, of which the last 160 compare all that can be told. */
+    private static final int ENOUGH = 310;
     private LetByTheDegree x;
     private Model m;
     private Random random;
     private int run;
     private String last;
     private int wrong;
+    private int used;
 
     public static void main(String[] args) {
         int from = args.length > 0 ? Integer.parseInt(args[0]) : 0;
-        int runs = args.length > 1 ? Integer.parseInt(args[1]) : 600;
+        int runs = args.length > 1 ? Integer.parseInt(args[1]) : 1200;
         int failed = 0;
         for (int run = from; run < from + runs; run++) {
             ModelTests t = new ModelTests();
@@ -22,6 +25,7 @@ public final class ModelTests {
             } else {
                 t.questions(run);
             }
+            t.compare();
             if (t.wrong > 0) {
                 failed++;
             }
@@ -42,12 +46,12 @@ public final class ModelTests {
     /** Houses in which floors give now and then, and mostly questions. */
     private void questions(int seed) {
         begin(seed);
-        for (int k = 0; k < 8 && wrong == 0; k++) {
+        for (int k = 0; k < 8 && goesOn(); k++) {
             thinHouse();
-            for (int i = 0; i < 8 && wrong == 0; i++) {
+            for (int i = 0; i < 8 && goesOn(); i++) {
                 int call = to(4) == 0 ? 6 + to(34) : 20 + to(19);
                 step(call == 8 ? 13 : call);
-                compare();
+                compareRow();
             }
         }
     }
@@ -97,14 +101,18 @@ public final class ModelTests {
             last = "hours(" + n + ")";
             due(x.hours(n), m.hours(n));
         }
-        compare();
+        compareRow();
+    }
+
+    private boolean goesOn() {
+        return wrong == 0 && used < ENOUGH;
     }
 
     private void anyCalls(int seed) {
         begin(seed);
         int calls = 30 + random.nextInt(120);
         boolean told = random.nextInt(20) > 0;
-        for (int k = 0; k < calls && wrong == 0; k++) {
+        for (int k = 0; k < calls && goesOn(); k++) {
             if (told && k == 0) {
                 type(houseText());
                 last = "house()";
@@ -115,11 +123,12 @@ public final class ModelTests {
             } else {
                 step(random.nextInt(CALLS));
             }
-            compare();
+            compareRow();
         }
     }
 
     private void due(long got, long want) {
+        used++;
         if (got != want) {
             wrong++;
             System.out.println("run " + run + ": " + last + " answered " + got + ", due is " + want);
@@ -493,6 +502,7 @@ public final class ModelTests {
     }
 
     private void same(String call, Told got, Told want, int a, int b) {
+        used++;
         String said;
         String ought;
         try {
@@ -512,6 +522,14 @@ public final class ModelTests {
         }
     }
 
+    private void compareRow() {
+        same("count", (a, b) -> x.count(a), (a, b) -> m.count(a), 11, 0);
+        for (int i = 0; i < m.count(11); i++) {
+            same("row", (a, b) -> x.row(a), (a, b) -> m.row(a), i, 0);
+        }
+    }
+
+    /** All that can be told. */
     private void compare() {
         for (int what = -1; what <= 13; what++) {
             same("count", (a, b) -> x.count(a), (a, b) -> m.count(a), what, 0);

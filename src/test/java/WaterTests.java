@@ -73,7 +73,7 @@ public final class WaterTests {
             {5, 6, 5}, {5, 1, 7}, {5, 0, 8}, {0, 100, 8}, {10, 0, 8}, {10, 1, 1}, {10, 100, 1}, {3, 70, 2}, {3, 71, 1},
             {3, 49, 3}, {3, 50, 2}, {1, 48, 7}, {1, 47, 8}};
         for (int[] w : want) {
-            Due.leaves(x, "leave(" + w[0] + ", " + w[1] + ")", w[2], () -> x.leave(w[0], w[1]));
+            Due.is("leave(" + w[0] + ", " + w[1] + ")", x.leave(w[0], w[1]), w[2]);
         }
         int[][] wrong = {{-1, 5}, {11, 5}, {5, -1}, {5, 101}, {Integer.MIN_VALUE, 5}, {5, Integer.MAX_VALUE}};
         for (int[] w : wrong) {
@@ -108,10 +108,10 @@ public final class WaterTests {
         Due.asks(y, "season(7, 5)", 4, () -> y.season(7, 5), 0, 1, 5);
         Due.asks(y, "season(-7, 60)", 4, () -> y.season(-7, 60), 0, 1, 60);
         // By a DRAW of FROST 0 the floor of room 0 gives, once.
-        LetByTheDegree z = Due.thin("9,9", "a1:000000");
-        Due.rule(z, "9*(f=0)*(y+n>0)");
         int found = 0;
         for (int seed = 0; seed < 100; seed++) {
+            LetByTheDegree z = Due.thin("9,9", "a1:000000");
+            Due.rule(z, "9*(f=0)*(y+n>0)");
             int r = seed * 1103515245 + 12345;
             int gave = (r >>> 16) % 10 == 0 ? 1 : 0;
             int s = seed;
@@ -239,8 +239,7 @@ public final class WaterTests {
         Due.type(x, "abc");
         long[] want = {3, 2, 4, 4, 5, 6, 0, 8, 1, 1 | 16, 2, 3, 3};
         for (int what = 0; what < want.length; what++) {
-            int w = what;
-            Due.leaves(x, "count(" + what + ")", want[what], () -> x.count(w));
+            Due.is("count(" + what + ")", x.count(what), want[what]);
         }
         for (int what : new int[] {-1, 13, Integer.MAX_VALUE, Integer.MIN_VALUE}) {
             Due.leaves(x, "count(" + what + ")", -100, () -> x.count(what));
