@@ -1,5 +1,7 @@
 import java.io.IOException;
 import java.lang.reflect.InvocationTargetException;
+import java.lang.reflect.Method;
+import java.lang.reflect.Modifier;
 import java.net.URL;
 import java.net.URLClassLoader;
 import java.nio.charset.StandardCharsets;
@@ -33,6 +35,7 @@ public final class ReadmeTests {
             }
         }
         shows();
+        namesCalls(readme);
         namesTests(readme);
         Due.end();
     }
@@ -89,7 +92,8 @@ public final class ReadmeTests {
     }
 
     private static void call(Path dir, List<String> got) throws IOException, ReflectiveOperationException {
-        try (URLClassLoader loader = new URLClassLoader(new URL[] {dir.toUri().toURL()}, ReadmeTests.class.getClassLoader())) {
+        URL[] where = {dir.toUri().toURL()};
+        try (URLClassLoader loader = new URLClassLoader(where, ReadmeTests.class.getClassLoader())) {
             loader.loadClass("ReadmeProgram").getMethod("run", List.class).invoke(null, got);
         } catch (InvocationTargetException e) {
             System.out.println("README.md: what it shows throws " + e.getCause());
@@ -100,11 +104,20 @@ public final class ReadmeTests {
     private static void shows() {
         Due.promise("README.md shows what it has to show");
         String all = " " + String.join(" ", calls);
-        for (String call : new String[] {"sign(", "end(", "house()", "people()", "rule()", "winter()", "row(", "undo()", "keep("}) {
+        for (String call : List.of("sign(", "end(", "house()", "people()", "rule()", "winter()", "row(", "undo()", "keep(")) {
             Due.is("whether it shows ." + call, all.contains("." + call), true);
         }
-        for (String answer : new String[] {"-1", "-2", "-3", "false", "NoSuchElementException"}) {
+        for (String answer : List.of("-1", "-2", "-3", "false", "NoSuchElementException")) {
             Due.is("whether it shows what answers " + answer, answers.contains(answer), true);
+        }
+    }
+
+    private static void namesCalls(String readme) {
+        Due.promise("README.md names each call");
+        for (Method m : LetByTheDegree.class.getDeclaredMethods()) {
+            if (Modifier.isPublic(m.getModifiers())) {
+                Due.is("whether it names " + m.getName(), readme.contains("`" + m.getName() + "`"), true);
+            }
         }
     }
 
