@@ -757,7 +757,7 @@ public final class LetByTheDegree {
         private static final int MOST = 80;
         private final char[] signs = new char[MOST];
         private int length;
-        /** Where a sign can't stand, reading stays at it. */
+        /** Where a sign can't stand, reading stays at it, also when THE TEXT is empty then. */
         private int at;
         private int stop;
 
@@ -1589,7 +1589,7 @@ public final class LetByTheDegree {
             this.course = course;
         }
 
-        /** Counts the ways that stand for limit HOURS (all, or the first only), and finds the first that stands the longest. */
+        /** Counts the ways that stand so many HOURS (all, or the first only), and finds the first that stands the longest. */
         void search(State now, int hours, boolean everyWay) {
             base.become(now);
             size = 0;
