@@ -1589,7 +1589,10 @@ public final class LetByTheDegree {
             this.course = course;
         }
 
-        /** Counts the ways that stand so many HOURS (all, or the first only), and finds the first that stands the longest. */
+        /**
+         * Counts the ways that stand so many HOURS (all of them, or the first only), and finds the first of those
+         * that stand the longest.
+         */
         void search(State now, int hours, boolean everyWay) {
             base.become(now);
             size = 0;
